@@ -31,6 +31,11 @@ public final class JoinsTest {
         Checks.all("no such pair", new int[] {x.pair(0, 1, -1, 0), x.pair(0, 1, 4, 9), x.pair(3, 0, 0, 0), x.pair(0, 1, MAX, 0), x.pair(0, 1, MIN, 0)}, -1, -1, -1, -1, -1);
         Checks.all("bad what", new int[] {x.pair(0, 1, 0, 4), x.pair(0, 1, 3, -1), x.pair(2, 2, 0, MAX)}, -2, -2, -2);
 
+        Checks.carryOut(x, "0=1*9,2;1=3*2,4*3,5*2,6*9");
+        Checks.all("a run of one is cut by many of the other", everyPair(x, 0, 1, 3), 1, 6, 2, 7);
+        Checks.all("what is behind it", everyPair(x, 0, 1, 4), 2, 6, 1, 9);
+        Checks.all("the other way round", everyPair(x, 1, 0, 3), 6, 1, 2, 7);
+        Checks.all("what is behind it", everyPair(x, 1, 0, 4), 6, 2, 1, 9);
         JoinedRuns most = mostPairs();
         Checks.all("the 79th pair of 40 and 40 runs", everyPair(most, 0, 1, 78), 2, 4, 1, 78);
         Checks.all("no 80th", everyPair(most, 0, 1, 79), -1, -1, -1, -1);

@@ -86,6 +86,12 @@ public final class TextsTest {
         for (String text : new String[] {"0=12", "0=1=", "0=1+2", "0-00*1", "0-0;", "0-1=1", "0@1*1", "0@00=1", "0!;4!", "0!;;", "0=1!"}) {
             faultOf(text, 3);
         }
+        faultOf("0=:", 2);
+        faultOf("0=/", 2);
+        faultOf("0-:*1", 2);
+        faultOf("0=1,:", 4);
+        faultOf("0@1=:", 4);
+        faultOf("0@1=/", 4);
         faultOf("0=1*a", 4);
         faultOf("0=1*,2", 4);
         faultOf("0=1,a", 4);

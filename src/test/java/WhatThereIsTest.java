@@ -51,6 +51,8 @@ public final class WhatThereIsTest {
         Checks.all("no such column", new int[] {x.find(4, 5, 0), x.find(-1, 10, 0)}, -1, -1);
         Checks.all("bad value", new int[] {x.find(0, 10, 0), x.find(0, -1, 0), x.find(1, MAX, 0)}, -2, -2, -2);
         Checks.all("bad rank", new int[] {x.find(0, 5, -1), x.find(1, 9, -1), x.find(0, 9, MIN)}, -2, -2, -2);
+        x.remove(0, 9, 2);
+        Checks.all("rows that were taken out", new int[] {x.find(0, 5, 5), x.find(0, 5, 6), x.find(0, 2, 0)}, 8, -6, -6);
         x.append(3, 4, 999);
         Checks.all("999 rows", new int[] {x.find(3, 4, 998), x.find(3, 4, 999)}, 998, -6);
     }
@@ -72,6 +74,14 @@ public final class WhatThereIsTest {
         Checks.all("empty", everyWhat(x, 3), 0, 0, 0, 0, 0, 1, 1);
         x.append(3, 9, 999);
         Checks.all("999 rows", everyWhat(x, 3), 999, 1, 8991, 999, 512, 1, 1);
+        x.remove(0, 3, 3);
+        Checks.all("one run, the others taken out", everyWhat(x, 0), 3, 1, 3, 3, 2, 1, 1);
+        x.remove(1, 6, 2);
+        Checks.all("two runs, the third taken out", everyWhat(x, 1), 6, 2, 24, 5, 1 << 9 | 1 << 3, 0, 1);
+        Checks.carryOut(x, "0=1,9");
+        Checks.all("rising at the second run", everyWhat(x, 0), 2, 2, 10, 1, 1 << 9 | 2, 1, 0);
+        Checks.carryOut(x, "0=3,2,9;0-2*1");
+        Checks.all("falling, a rise taken out", everyWhat(x, 0), 2, 2, 5, 1, 12, 0, 1);
         Checks.fillRuns(x, 2);
         Checks.all("40 runs", everyWhat(x, 2), 40, 40, 60, 1, 6, 0, 0);
         Checks.all("no such column", new int[] {x.ofColumn(4, 0), x.ofColumn(-1, 7), x.ofColumn(MAX, 0)}, -1, -1, -1);
@@ -85,6 +95,11 @@ public final class WhatThereIsTest {
         Checks.all("1", new int[] {x.group(0, 1, 0), x.group(0, 1, 1), x.group(0, 1, 2)}, 3, 1, 3);
         Checks.all("0", new int[] {x.group(0, 0, 0), x.group(0, 0, 1), x.group(0, 0, 2)}, 0, 0, 0);
         Checks.all("an empty column", new int[] {x.group(3, 9, 0), x.group(3, 9, 1), x.group(3, 9, 2)}, 0, 0, 0);
+        x.remove(0, 2, 9);
+        Checks.all("its first run alone, the others taken out", new int[] {x.group(0, 5, 0), x.group(0, 5, 1), x.group(0, 5, 2)}, 2, 1, 2);
+        Checks.all("1, taken out", new int[] {x.group(0, 1, 0), x.group(0, 1, 1), x.group(0, 1, 2)}, 0, 0, 0);
+        x.remove(0, 0, 2);
+        Checks.all("all taken out", new int[] {x.group(0, 5, 0), x.group(0, 5, 1), x.group(0, 5, 2)}, 0, 0, 0);
         Checks.all("no such column", new int[] {x.group(4, 5, 0), x.group(-1, 10, 0)}, -1, -1);
         Checks.all("bad value", new int[] {x.group(0, 10, 0), x.group(0, -1, 0), x.group(0, MIN, 0)}, -2, -2, -2);
         Checks.all("bad what", new int[] {x.group(0, 5, 3), x.group(0, 5, -1), x.group(3, 0, MAX)}, -2, -2, -2);
