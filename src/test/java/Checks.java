@@ -2,7 +2,7 @@ import java.util.Objects;
 
 /** What every test of the project leans on: it compares answers, names the wrong ones and ends with their exit code. */
 final class Checks {
-    private static int promise = 0;
+    private static String about = "";
     private static int asked = 0;
     private static int wrong = 0;
 
@@ -10,14 +10,19 @@ final class Checks {
     }
 
     static void promise(int number) {
-        promise = number;
+        about("promise " + number);
+    }
+
+    /** What the answers that are asked from here on are about. */
+    static void about(String what) {
+        about = what;
     }
 
     static void due(String call, Object got, Object want) {
         asked++;
         if (!Objects.equals(got, want)) {
             wrong++;
-            System.out.println("promise " + promise + ": " + call + " answered " + got + ", due is " + want);
+            System.out.println(about + ": " + call + " answered " + got + ", due is " + want);
         }
     }
 
@@ -62,22 +67,24 @@ final class Checks {
         return x;
     }
 
-    /** The runs of a column, as a text has them. */
+    /** The runs of a column, as a text has them; two calls for each, as an object is good for 512 of them. */
     static String runs(JoinedRuns x, int column) {
         StringBuilder runs = new StringBuilder();
-        for (int k = 0; k < x.ofColumn(column, 1); k++) {
-            runs.append(k > 0 ? "," : "").append(x.run(column, k, 0));
-            if (x.run(column, k, 1) != 1) {
-                runs.append("*").append(x.run(column, k, 1));
-            }
+        int many = x.ofColumn(column, 1);
+        for (int k = 0; k < many; k++) {
+            int length = x.run(column, k, 1);
+            runs.append(k > 0 ? "," : "").append(x.run(column, k, 0)).append(length == 1 ? "" : "*" + length);
         }
         return runs.toString();
     }
 
+    static String columns(JoinedRuns x) {
+        return runs(x, 0) + " | " + runs(x, 1) + " | " + runs(x, 2) + " | " + runs(x, 3);
+    }
+
     /** All that can be seen of an object without a change to it. */
     static String look(JoinedRuns x) {
-        return runs(x, 0) + " | " + runs(x, 1) + " | " + runs(x, 2) + " | " + runs(x, 3)
-            + " | rows " + x.count(0) + " pad " + x.count(2) + " fault " + x.fault() + " undo " + x.count(3);
+        return columns(x) + " | rows " + x.count(0) + " pad " + x.count(2) + " fault " + x.fault() + " undo " + x.count(3);
     }
 
     /** A text whose runs stand in turn between two values, so many of them. */

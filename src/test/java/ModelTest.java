@@ -5,13 +5,15 @@ import java.util.Random;
  * Each object has its own temper: short or long runs, few or many values, arguments that are seldom or often wrong.
  */
 public final class ModelTest {
-    private static final int OBJECTS = 600;
+    private static final int OBJECTS = 6000;
+    /** An object is used for so many calls, and nothing is promised of later ones. */
     private static final int CALLS = 512;
     private static final int[] WILD = {Integer.MIN_VALUE, Integer.MAX_VALUE, -1, -7, 4, 10, 1000, 2, 7, 79, 80, 0};
     private static final String[] SIGNS = {"0", "1", "3", "4", "9", "10", "00", "999", "1000", "=", "+", "!", "-", "*", "@", ",", ";", "~", "a"};
 
     private final Random random;
-    private final JoinedRuns x = new JoinedRuns();
+    private final JoinedRuns object = new JoinedRuns();
+    private int calls = 0;
     private final Model model = new Model();
     private final int values;
     private final int longest;
@@ -28,12 +30,33 @@ public final class ModelTest {
 
     public static void main(String[] args) {
         for (int seed = 0; seed < OBJECTS; seed++) {
-            ModelTest test = new ModelTest(seed);
-            for (int call = 0; call < CALLS; call++) {
-                test.step("seed " + seed + ", call " + call + ": ");
-            }
+            new ModelTest(seed).use("seed " + seed + ", ");
         }
         Checks.end();
+    }
+
+    private void use(String at) {
+        try {
+            while (calls < CALLS) {
+                step(at + "call " + calls + ": ");
+            }
+        } catch (UsedUp e) {
+            Checks.due(at + "calls", calls, CALLS);
+        }
+    }
+
+    /** Thrown where the object would be called once too often, which may be in the midst of a step. */
+    private static final class UsedUp extends RuntimeException {
+        private static final long serialVersionUID = 1;
+    }
+
+    /** The object, for one call. */
+    private JoinedRuns x() {
+        if (calls == CALLS) {
+            throw new UsedUp();
+        }
+        calls++;
+        return object;
     }
 
     private int tame(int right) {
@@ -92,45 +115,60 @@ public final class ModelTest {
         int other = column();
         switch (kind) {
             case 0:
-                Checks.due(at + "append " + column + " " + value + " " + length, x.append(column, value, length), model.append(column, value, length));
+                Checks.due(at + "append " + column + " " + value + " " + length, x().append(column, value, length), model.append(column, value, length));
                 break;
             case 1:
-                Checks.due(at + "insert " + column + " " + row + " " + value + " " + length, x.insert(column, row, value, length), model.insert(column, row, value, length));
+                Checks.due(at + "insert " + column + " " + row + " " + value + " " + length, x().insert(column, row, value, length), model.insert(column, row, value, length));
                 break;
             case 2:
             case 3:
                 int many = tame(1 + random.nextInt(4));
-                Checks.due(at + "remove " + column + " " + row + " " + many, x.remove(column, row, many), model.remove(column, row, many));
+                Checks.due(at + "remove " + column + " " + row + " " + many, x().remove(column, row, many), model.remove(column, row, many));
                 break;
             case 4:
-                Checks.due(at + "set " + column + " " + row + " " + value, x.set(column, row, value), model.set(column, row, value));
+                Checks.due(at + "set " + column + " " + row + " " + value, x().set(column, row, value), model.set(column, row, value));
                 break;
             case 5:
                 if (random.nextInt(3) == 0) {
-                    Checks.due(at + "sort " + column, x.sort(column), model.sort(column));
+                    Checks.due(at + "sort " + column, x().sort(column), model.sort(column));
                 }
                 break;
             case 6:
-                Checks.due(at + "turn " + column + " " + one, x.turn(column, one), model.turn(column, one));
+                Checks.due(at + "turn " + column + " " + one, x().turn(column, one), model.turn(column, one));
                 break;
             default:
                 int what = what(3);
-                Checks.due(at + "merge " + column + " " + one + " " + other + " " + what, x.merge(column, one, other, what), model.merge(column, one, other, what));
+                Checks.due(at + "merge " + column + " " + one + " " + other + " " + what, x().merge(column, one, other, what), model.merge(column, one, other, what));
         }
-        if (model.count(0) % 5 == 0) {
+        same(at, column);
+        if (random.nextInt(10) == 0) {
             same(at);
         }
     }
 
+    /** All columns run by run. */
     private void same(String at) {
         for (int column = 0; column < 4; column++) {
             int runs = model.ofColumn(column, 1);
-            Checks.due(at + "runs of " + column, x.ofColumn(column, 1), runs);
-            for (int run = 0; run <= runs; run++) {
-                for (int what = 0; what < 3; what++) {
-                    Checks.due(at + "run " + column + " " + run + " " + what, x.run(column, run, what), model.run(column, run, what));
-                }
+            for (int run = 0; run < runs; run++) {
+                Checks.due(at + "value of run " + column + " " + run, x().run(column, run, 0), model.run(column, run, 0));
+                Checks.due(at + "length of run " + column + " " + run, x().run(column, run, 1), model.run(column, run, 1));
             }
+            Checks.due(at + "behind the runs of " + column, x().run(column, runs, 0), JoinedRuns.NO_SUCH);
+        }
+    }
+
+    private void sameNowAndThen(String at) {
+        Checks.due(at + "count 1", x().count(1), model.count(1));
+        if (random.nextInt(4) == 0) {
+            same(at);
+        }
+    }
+
+    /** One column, cheaply: the object's calls are numbered. */
+    private void same(String at, int column) {
+        for (int what = 0; what < 4; what++) {
+            Checks.due(at + "ofColumn " + column + " " + what, x().ofColumn(column, what), model.ofColumn(column, what));
         }
     }
 
@@ -141,41 +179,41 @@ public final class ModelTest {
         switch (kind) {
             case 8:
                 int run = tame(random.nextInt(41));
-                Checks.due(at + "run " + column + " " + run + " " + what, x.run(column, run, what), model.run(column, run, what));
+                Checks.due(at + "run " + column + " " + run + " " + what, x().run(column, run, what), model.run(column, run, what));
                 break;
             case 9:
                 int row = row(column);
-                Checks.due(at + "value " + column + " " + row, x.value(column, row), model.value(column, row));
+                Checks.due(at + "value " + column + " " + row, x().value(column, row), model.value(column, row));
                 break;
             case 10:
                 int rank = tame(random.nextInt(longest + 9));
-                Checks.due(at + "find " + column + " " + value + " " + rank, x.find(column, value, rank), model.find(column, value, rank));
+                Checks.due(at + "find " + column + " " + value + " " + rank, x().find(column, value, rank), model.find(column, value, rank));
                 break;
             case 11:
-                Checks.due(at + "ofColumn " + column + " " + what, x.ofColumn(column, what), model.ofColumn(column, what));
+                Checks.due(at + "ofColumn " + column + " " + what, x().ofColumn(column, what), model.ofColumn(column, what));
                 break;
             case 12:
-                Checks.due(at + "group " + column + " " + value + " " + what, x.group(column, value, what), model.group(column, value, what));
+                Checks.due(at + "group " + column + " " + value + " " + what, x().group(column, value, what), model.group(column, value, what));
                 break;
             case 13:
-                Checks.due(at + "count " + what, x.count(what), model.count(what));
+                Checks.due(at + "count " + what, x().count(what), model.count(what));
                 break;
             case 14:
                 int pair = tame(random.nextInt(80));
-                Checks.due(at + "pair " + column + " " + other + " " + pair + " " + what, x.pair(column, other, pair, what), model.pair(column, other, pair, what));
+                Checks.due(at + "pair " + column + " " + other + " " + pair + " " + what, x().pair(column, other, pair, what), model.pair(column, other, pair, what));
                 break;
             case 15:
-                Checks.due(at + "joined " + column + " " + other + " " + what, x.joined(column, other, what), model.joined(column, other, what));
+                Checks.due(at + "joined " + column + " " + other + " " + what, x().joined(column, other, what), model.joined(column, other, what));
                 break;
             case 16:
-                Checks.due(at + "alike " + column + " " + other, x.alike(column, other), model.alike(column, other));
+                Checks.due(at + "alike " + column + " " + other, x().alike(column, other), model.alike(column, other));
                 break;
             case 17:
-                Checks.due(at + "saves " + column, x.saves(column), model.saves(column));
+                Checks.due(at + "saves " + column, x().saves(column), model.saves(column));
                 break;
             default:
                 int which = what(2);
-                Checks.due(at + "bestSet " + column + " " + value + " " + which, x.bestSet(column, value, which), model.bestSet(column, value, which));
+                Checks.due(at + "bestSet " + column + " " + value + " " + which, x().bestSet(column, value, which), model.bestSet(column, value, which));
         }
     }
 
@@ -224,7 +262,7 @@ public final class ModelTest {
 
     private void text(String at) {
         if (random.nextInt(3) > 0) {
-            Checks.due(at + "wipe", x.wipe(), model.wipe());
+            Checks.due(at + "wipe", x().wipe(), model.wipe());
         }
         String text = anyText();
         for (int from = 0; from < text.length();) {
@@ -235,26 +273,26 @@ public final class ModelTest {
         if (random.nextInt(4) == 0) {
             put(at, random.nextBoolean() ? random.nextLong() : Checks.packed("!;0!") << 8 * random.nextInt(5) & ~(255L << 8 * random.nextInt(8)));
         }
-        Checks.due(at + "fault of " + text, x.fault(), model.fault());
+        Checks.due(at + "fault of " + text, x().fault(), model.fault());
         if (random.nextInt(5) > 0) {
-            Checks.due(at + "carryOut of " + text, x.carryOut(), model.carryOut());
-            same(at);
+            Checks.due(at + "carryOut of " + text, x().carryOut(), model.carryOut());
+            sameNowAndThen(at);
         }
     }
 
     private void put(String at, long characters) {
-        Checks.due(at + "put " + characters, x.put(characters), model.put(characters));
+        Checks.due(at + "put " + characters, x().put(characters), model.put(characters));
     }
 
     private void states(String at, int kind) {
         int slot = what(2);
         if (kind == 22) {
-            Checks.due(at + "undo", x.undo(), model.undo());
+            Checks.due(at + "undo", x().undo(), model.undo());
         } else if (kind == 23) {
-            Checks.due(at + "save " + slot, x.save(slot), model.save(slot));
+            Checks.due(at + "save " + slot, x().save(slot), model.save(slot));
         } else {
-            Checks.due(at + "restore " + slot, x.restore(slot), model.restore(slot));
+            Checks.due(at + "restore " + slot, x().restore(slot), model.restore(slot));
         }
-        same(at);
+        sameNowAndThen(at);
     }
 }

@@ -164,14 +164,18 @@ public final class TextsTest {
         x.undo();
         Checks.due("one undo takes them back", Checks.runs(x, 0) + " " + Checks.runs(x, 1), "1*3 2*2");
 
-        Checks.due("39 runs in a text", Checks.carryOut(x, "3=" + Checks.zigzag(1, 2, 39)), 1);
-        Checks.due("runs", x.ofColumn(3, 1), 39);
-        stopsAt(x, "3+2,1", 0);
-        Checks.due("the 40th", Checks.carryOut(x, "3+1,2*9"), 1);
-        stopsAt(x, "3+1", 0);
-        stopsAt(x, "3@41=1", 0);
-        Checks.due("it grows", Checks.carryOut(x, "3+2*5"), 1);
-        Checks.due("runs", x.ofColumn(3, 1), 40);
+        String most = "3=" + Checks.zigzag(1, 2, 39);
+        JoinedRuns y = new JoinedRuns();
+        Checks.due("39 runs in a text", Checks.carryOut(y, most), 1);
+        Checks.due("runs", y.ofColumn(3, 1), 39);
+        stopsAt(y, "3+2,1", 0);
+        Checks.due("the 40th", Checks.carryOut(y, "3+1,2*9"), 1);
+        JoinedRuns z = Checks.of(most);
+        Checks.carryOut(z, "3+1,2*9");
+        stopsAt(z, "3+1", 0);
+        stopsAt(y, "3@41=1", 0);
+        Checks.due("it grows", Checks.carryOut(z, "3+2*5"), 1);
+        Checks.due("runs", z.ofColumn(3, 1), 40);
     }
 
     private static void stopsAt(JoinedRuns x, String text, int carriedOut) {
