@@ -10,6 +10,10 @@ import java.util.function.Supplier;
 final class Boundary {
     static final int MAX = Integer.MAX_VALUE, MIN = Integer.MIN_VALUE;
     private static final int MOST_STATES = 6;
+    /** What an object is asked behind a call that should have changed nothing: one call of each kind that changes something. */
+    private static final Call[] LATER = {
+        x -> x.append(1, 3, 2), x -> x.insert(0, 0, 3, 1), x -> x.remove(0, 0, 1), x -> x.set(0, 0, 7), x -> x.sort(0), x -> x.turn(2, 0),
+        x -> x.merge(2, 0, 1, 1), x -> Checks.carryOut(x, "2=1,2"), x -> x.put(';'), JoinedRuns::wipe, x -> x.save(1)};
 
     private Boundary() {
     }
@@ -58,7 +62,7 @@ final class Boundary {
         }
     }
 
-    /** All that an object keeps: its columns and pad, the states that can be undone, the slots, the orders on the pad. */
+    /** All that an object keeps: its columns and pad, the states that can be undone, the slots, the orders on the pad, and what comes of later calls. */
     private static List<String> everything(Supplier<JoinedRuns> made) {
         List<String> all = new ArrayList<>();
         for (int undone = 0; undone <= MOST_STATES + 1; undone++) {
@@ -75,6 +79,10 @@ final class Boundary {
         }
         JoinedRuns x = made.get();
         all.add("orders: " + x.carryOut() + " " + Checks.look(x));
+        for (int k = 0; k < LATER.length; k++) {
+            JoinedRuns y = made.get();
+            all.add("later call " + k + ": " + LATER[k].on(y) + " " + Checks.look(y));
+        }
         return all;
     }
 

@@ -444,7 +444,7 @@ final class ChangesBoundaries {
             Boundary.refused("41 runs, into the one", ChangesBoundaries::mergeOf41, y -> y.merge(0, 0, 1, 0), -4);
             Boundary.refused("41 runs, into the other", ChangesBoundaries::mergeOf41, y -> y.merge(1, 1, 0, 0), -4);
             Checks.due("two runs of the same columns", mergeOf41().merge(2, 0, 1, 1), 41);
-            Checks.due("none of 79 runs of pairs", JoinsBoundaries.mostPairs().merge(2, 0, 1, 2), 0);
+            Checks.due("none of 79 runs of pairs", Made.mostPairs().merge(2, 0, 1, 2), 0);
         });
     }
 }

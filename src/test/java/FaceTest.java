@@ -72,13 +72,14 @@ public final class FaceTest {
     }
 
     private static void classesInside() {
-        Checks.due("no more than twelve classes", FACE.getDeclaredClasses().length < 12, true);
+        Checks.due("no more than twelve classes", FACE.getDeclaredClasses().length <= 12, true);
         List<Class<?>> classes = new ArrayList<>(Arrays.asList(FACE.getDeclaredClasses()));
         for (Class<?> inside : classes) {
             Checks.due(inside + " is static", Modifier.isStatic(inside.getModifiers()), true);
             Checks.due(inside + " is open", Modifier.isPublic(inside.getModifiers()) || Modifier.isProtected(inside.getModifiers()), false);
             for (Method method : inside.getDeclaredMethods()) {
-                Checks.due(method + " is an object's own", Set.of("equals", "hashCode", "toString").contains(method.getName()), false);
+                boolean own = Set.of("equals", "hashCode", "toString").contains(method.getName()) && !inside.isRecord();
+                Checks.due(method + " is an object's own", own, false);
             }
         }
         classes.add(FACE);

@@ -19,41 +19,19 @@ final class JoinsBoundaries {
         alike();
     }
 
-    /** Columns 0 and 1 of 40 runs that are cut at other rows each: 79 runs of pairs, no two columns have more. */
-    static JoinedRuns mostPairs() {
-        JoinedRuns x = Made.runs(40, 2);
-        x.append(1, 3, 1);
-        for (int k = 1; k < 40; k++) {
-            x.append(1, 3 + k % 2, 2);
-        }
-        return x;
-    }
-
-    private static int[] everyPair(JoinedRuns x, int one, int other, int pair) {
-        return new int[] {x.pair(one, other, pair, 0), x.pair(one, other, pair, 1), x.pair(one, other, pair, 2), x.pair(one, other, pair, 3)};
-    }
-
-    private static int[] everyJoined(JoinedRuns x, int one, int other) {
-        int[] answers = new int[5];
-        for (int what = 0; what < 5; what++) {
-            answers[what] = x.joined(one, other, what);
-        }
-        return answers;
-    }
-
     private static void joins() {
         Sentences.chapter("Joins");
         Sentences.sentence("Two columns (perhaps the same one) joined by rows are the rows that both have (as many as the shorter one): "
             + "each has a pair of values.", () -> {
             JoinedRuns x = Checks.of("0=1*3,2*2;1=4*4;2=5");
-            Checks.all("the one longer", everyJoined(x, 0, 1), 4, 2, 0, 20, 2);
-            Checks.all("the other longer", everyJoined(x, 1, 0), 4, 2, 0, 20, 2);
-            Checks.all("one row", everyJoined(x, 2, 0), 1, 1, 0, 5, 1);
-            Checks.all("the same one", everyJoined(x, 0, 0), 5, 2, 5, 11, 2);
-            Checks.all("an empty one", everyJoined(x, 0, 3), 0, 0, 0, 0, 0);
-            Checks.all("an empty one first", everyJoined(x, 3, 0), 0, 0, 0, 0, 0);
-            Checks.all("an empty one with itself", everyJoined(x, 3, 3), 0, 0, 0, 0, 0);
-            Checks.all("the rows of the longer one that are left out", everyPair(x, 0, 1, 1), 2, 4, 1, 3);
+            Checks.all("the one longer", Answers.joined(x, 0, 1), 4, 2, 0, 20, 2);
+            Checks.all("the other longer", Answers.joined(x, 1, 0), 4, 2, 0, 20, 2);
+            Checks.all("one row", Answers.joined(x, 2, 0), 1, 1, 0, 5, 1);
+            Checks.all("the same one", Answers.joined(x, 0, 0), 5, 2, 5, 11, 2);
+            Checks.all("an empty one", Answers.joined(x, 0, 3), 0, 0, 0, 0, 0);
+            Checks.all("an empty one first", Answers.joined(x, 3, 0), 0, 0, 0, 0, 0);
+            Checks.all("an empty one with itself", Answers.joined(x, 3, 3), 0, 0, 0, 0, 0);
+            Checks.all("the rows of the longer one that are left out", Answers.pair(x, 0, 1, 1), 2, 4, 1, 3);
         });
         Sentences.sentence("(as many as the shorter one)", () -> {
             JoinedRuns x = Checks.of("0=1*998;1=1*999;2=2");
@@ -62,12 +40,12 @@ final class JoinsBoundaries {
         });
         Sentences.sentence("They are told as runs of pairs: side by side ones are never alike.", () -> {
             JoinedRuns x = Checks.of("0=1*6;1=2*2,3*2,2*2;2=1*2,2*2,1*2");
-            Checks.all("one run with three", everyJoined(x, 0, 1), 6, 3, 0, 14, 2);
-            Checks.all("borders at the same rows", everyJoined(x, 1, 2), 6, 3, 0, 20, 2);
-            Checks.all("the same one", everyPair(x, 0, 0, 0), 1, 1, 6, 0);
+            Checks.all("one run with three", Answers.joined(x, 0, 1), 6, 3, 0, 14, 2);
+            Checks.all("borders at the same rows", Answers.joined(x, 1, 2), 6, 3, 0, 20, 2);
+            Checks.all("the same one", Answers.pair(x, 0, 0, 0), 1, 1, 6, 0);
             Checks.due("no second one", x.pair(0, 0, 1, 0), -1);
-            Checks.all("the middle one", everyPair(x, 1, 2, 1), 3, 2, 2, 2);
-            JoinedRuns most = mostPairs();
+            Checks.all("the middle one", Answers.pair(x, 1, 2, 1), 3, 2, 2, 2);
+            JoinedRuns most = Made.mostPairs();
             for (int pair = 1; pair < 79; pair++) {
                 boolean alike = most.pair(0, 1, pair, 0) == most.pair(0, 1, pair - 1, 0) && most.pair(0, 1, pair, 1) == most.pair(0, 1, pair - 1, 1);
                 Checks.due("pairs " + (pair - 1) + " and " + pair + " are alike", alike, false);
@@ -86,30 +64,30 @@ final class JoinsBoundaries {
         Sentences.chapter("Promise 15: pair");
         Sentences.sentence("Returns something about a run of pairs of two columns joined by rows.", () -> {
             JoinedRuns x = Made.withAll();
-            Checks.all("pair 0", everyPair(x, 0, 1, 0), 0, 8, 1, 0);
-            Checks.all("pair 1", everyPair(x, 0, 1, 1), 1, 8, 1, 1);
-            Checks.all("pair 2", everyPair(x, 0, 1, 2), 1, 5, 1, 2);
-            Checks.all("pair 6, the last one", everyPair(x, 0, 1, 6), 4, 7, 1, 8);
-            Checks.all("turned round", everyPair(x, 1, 0, 6), 7, 4, 1, 8);
-            Checks.all("with itself", everyPair(x, 0, 0, 4), 4, 4, 4, 6);
+            Checks.all("pair 0", Answers.pair(x, 0, 1, 0), 0, 8, 1, 0);
+            Checks.all("pair 1", Answers.pair(x, 0, 1, 1), 1, 8, 1, 1);
+            Checks.all("pair 2", Answers.pair(x, 0, 1, 2), 1, 5, 1, 2);
+            Checks.all("pair 6, the last one", Answers.pair(x, 0, 1, 6), 4, 7, 1, 8);
+            Checks.all("turned round", Answers.pair(x, 1, 0, 6), 7, 4, 1, 8);
+            Checks.all("with itself", Answers.pair(x, 0, 0, 4), 4, 4, 4, 6);
         });
         Sentences.sentence("`pair`: 0 for the first run of pairs", () -> {
-            Checks.all("of one pair", everyPair(Checks.of("2=7;3=0*5"), 2, 3, 0), 7, 0, 1, 0);
-            Checks.all("of 999 rows", everyPair(Made.fullOfRows(), 0, 0, 0), 5, 5, 999, 0);
-            JoinedRuns most = mostPairs();
+            Checks.all("of one pair", Answers.pair(Checks.of("2=7;3=0*5"), 2, 3, 0), 7, 0, 1, 0);
+            Checks.all("of 999 rows", Answers.pair(Made.fullOfRows(), 0, 0, 0), 5, 5, 999, 0);
+            JoinedRuns most = Made.mostPairs();
             for (int pair = 0; pair < 79; pair++) {
-                Checks.all("pair " + pair, everyPair(most, 0, 1, pair), 1 + pair / 2 % 2, 3 + (pair + 1) / 2 % 2, 1, pair);
+                Checks.all("pair " + pair, Answers.pair(most, 0, 1, pair), 1 + pair / 2 % 2, 3 + (pair + 1) / 2 % 2, 1, pair);
             }
         });
         Sentences.sentence("`what`: 0 the value of the one, 1 that of the other, 2 its length, 3 its first row", () -> {
             JoinedRuns x = Checks.of("0=9*4,0*5;1=0*2,9*5");
-            Checks.all("pair 0", everyPair(x, 0, 1, 0), 9, 0, 2, 0);
-            Checks.all("pair 1", everyPair(x, 0, 1, 1), 9, 9, 2, 2);
-            Checks.all("pair 2", everyPair(x, 0, 1, 2), 0, 9, 3, 4);
+            Checks.all("pair 0", Answers.pair(x, 0, 1, 0), 9, 0, 2, 0);
+            Checks.all("pair 1", Answers.pair(x, 0, 1, 1), 9, 9, 2, 2);
+            Checks.all("pair 2", Answers.pair(x, 0, 1, 2), 0, 9, 3, 4);
         });
         Sentences.sentence("Returns the number", () -> {
-            Checks.all("of two full columns", everyPair(Made.fullOfBoth(), 0, 0, 39), 2, 2, 63, 936);
-            Checks.all("of value 0", everyPair(Checks.of("1=0"), 1, 1, 0), 0, 0, 1, 0);
+            Checks.all("of two full columns", Answers.pair(Made.fullOfBoth(), 0, 0, 39), 2, 2, 63, 936);
+            Checks.all("of value 0", Answers.pair(Checks.of("1=0"), 1, 1, 0), 0, 0, 1, 0);
         });
     }
 
@@ -122,8 +100,8 @@ final class JoinsBoundaries {
             Checks.due("pair 6 of 7", Made.withAll().pair(0, 1, 6, 0), 4);
             Boundary.refusedFor(Boundary.outside(0, 6), "pair(0, 1, %d, 0)", Made::withAll, (y, pair) -> y.pair(0, 1, pair, 0), -1);
             Boundary.refusedFor(Boundary.outside(0, 4), "pair(0, 0, %d, 3)", Made::withAll, (y, pair) -> y.pair(0, 0, pair, 3), -1);
-            Boundary.refused("pair 79 of 79", JoinsBoundaries::mostPairs, y -> y.pair(0, 1, 79, 0), -1);
-            Boundary.refused("pair 80 of 79", JoinsBoundaries::mostPairs, y -> y.pair(0, 1, 80, 3), -1);
+            Boundary.refused("pair 79 of 79", Made::mostPairs, y -> y.pair(0, 1, 79, 0), -1);
+            Boundary.refused("pair 80 of 79", Made::mostPairs, y -> y.pair(0, 1, 80, 3), -1);
             Boundary.refused("pair 40 of 40", Made::fullOfRuns, y -> y.pair(0, 0, 40, 0), -1);
             Boundary.refused("with an empty column", Made::withAll, y -> y.pair(0, 3, 0, 0), -1);
             Boundary.refused("an empty column", Made::withAll, y -> y.pair(3, 0, 0, 0), -1);
@@ -139,10 +117,10 @@ final class JoinsBoundaries {
     private static void joined() {
         Sentences.chapter("Promise 16: joined");
         Sentences.sentence("Returns a number of two columns joined by rows.", () -> {
-            Checks.all("with all", everyJoined(Made.withAll(), 0, 1), 9, 7, 0, 129, 7);
-            Checks.all("two empty ones", everyJoined(Made.withAll(), 3, 3), 0, 0, 0, 0, 0);
-            Checks.all("79 runs of pairs", everyJoined(mostPairs(), 0, 1), 79, 79, 0, 414, 4);
-            Checks.all("a full one with itself", everyJoined(Made.fullOfBoth(), 0, 0), 999, 40, 999, 480 + 4 * 519, 2);
+            Checks.all("with all", Answers.joined(Made.withAll(), 0, 1), 9, 7, 0, 129, 7);
+            Checks.all("two empty ones", Answers.joined(Made.withAll(), 3, 3), 0, 0, 0, 0, 0);
+            Checks.all("79 runs of pairs", Answers.joined(Made.mostPairs(), 0, 1), 79, 79, 0, 414, 4);
+            Checks.all("a full one with itself", Answers.joined(Made.fullOfBoth(), 0, 0), 999, 40, 999, 480 + 4 * 519, 2);
         });
         Sentences.sentence("`what`: 0 its rows", () -> {
             JoinedRuns x = Checks.of("0=9*999;1=1*998;2=3");

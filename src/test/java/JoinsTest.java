@@ -12,70 +12,45 @@ public final class JoinsTest {
         Checks.end();
     }
 
-    private static int[] everyPair(JoinedRuns x, int one, int other, int pair) {
-        return new int[] {x.pair(one, other, pair, 0), x.pair(one, other, pair, 1), x.pair(one, other, pair, 2), x.pair(one, other, pair, 3)};
-    }
-
     private static void pair() {
         Checks.promise(15);
         JoinedRuns x = Checks.of("0=9,3*6,5*4;1=3*5,9*5;2=1*999");
-        Checks.all("pair 0", everyPair(x, 0, 1, 0), 9, 3, 1, 0);
-        Checks.all("pair 1", everyPair(x, 0, 1, 1), 3, 3, 4, 1);
-        Checks.all("pair 2", everyPair(x, 0, 1, 2), 3, 9, 2, 5);
-        Checks.all("pair 3", everyPair(x, 0, 1, 3), 5, 9, 3, 7);
-        Checks.all("no pair 4: the longer one's row 10 has no partner", everyPair(x, 0, 1, 4), -1, -1, -1, -1);
-        Checks.all("the other way round", everyPair(x, 1, 0, 3), 9, 5, 3, 7);
-        Checks.all("with itself", everyPair(x, 0, 0, 2), 5, 5, 4, 7);
-        Checks.all("with a long one", everyPair(x, 2, 1, 1), 1, 9, 5, 5);
+        Checks.all("pair 0", Answers.pair(x, 0, 1, 0), 9, 3, 1, 0);
+        Checks.all("pair 1", Answers.pair(x, 0, 1, 1), 3, 3, 4, 1);
+        Checks.all("pair 2", Answers.pair(x, 0, 1, 2), 3, 9, 2, 5);
+        Checks.all("pair 3", Answers.pair(x, 0, 1, 3), 5, 9, 3, 7);
+        Checks.all("no pair 4: the longer one's row 10 has no partner", Answers.pair(x, 0, 1, 4), -1, -1, -1, -1);
+        Checks.all("the other way round", Answers.pair(x, 1, 0, 3), 9, 5, 3, 7);
+        Checks.all("with itself", Answers.pair(x, 0, 0, 2), 5, 5, 4, 7);
+        Checks.all("with a long one", Answers.pair(x, 2, 1, 1), 1, 9, 5, 5);
         Checks.all("no such column", new int[] {x.pair(4, 0, 0, 0), x.pair(0, 4, 0, 0), x.pair(-1, 0, 0, 9), x.pair(0, -1, 0, 0)}, -1, -1, -1, -1);
         Checks.all("no such pair", new int[] {x.pair(0, 1, -1, 0), x.pair(0, 1, 4, 9), x.pair(3, 0, 0, 0), x.pair(0, 1, MAX, 0), x.pair(0, 1, MIN, 0)}, -1, -1, -1, -1, -1);
         Checks.all("bad what", new int[] {x.pair(0, 1, 0, 4), x.pair(0, 1, 3, -1), x.pair(2, 2, 0, MAX)}, -2, -2, -2);
 
         Checks.carryOut(x, "0=1*9,2;1=3*2,4*3,5*2,6*9");
-        Checks.all("a run of one is cut by many of the other", everyPair(x, 0, 1, 3), 1, 6, 2, 7);
-        Checks.all("what is behind it", everyPair(x, 0, 1, 4), 2, 6, 1, 9);
-        Checks.all("the other way round", everyPair(x, 1, 0, 3), 6, 1, 2, 7);
-        Checks.all("what is behind it", everyPair(x, 1, 0, 4), 6, 2, 1, 9);
-        JoinedRuns most = mostPairs();
-        Checks.all("the 79th pair of 40 and 40 runs", everyPair(most, 0, 1, 78), 2, 4, 1, 78);
-        Checks.all("no 80th", everyPair(most, 0, 1, 79), -1, -1, -1, -1);
-    }
-
-    /** Two columns of 40 runs that are cut at other rows each. */
-    private static JoinedRuns mostPairs() {
-        JoinedRuns x = new JoinedRuns();
-        x.append(1, 3, 1);
-        for (int k = 0; k < 40; k++) {
-            x.append(0, 1 + k % 2, 2);
-        }
-        for (int k = 1; k < 40; k++) {
-            x.append(1, 3 + k % 2, 2);
-        }
-        return x;
-    }
-
-    private static int[] everyJoined(JoinedRuns x, int one, int other) {
-        int[] answers = new int[5];
-        for (int what = 0; what < 5; what++) {
-            answers[what] = x.joined(one, other, what);
-        }
-        return answers;
+        Checks.all("a run of one is cut by many of the other", Answers.pair(x, 0, 1, 3), 1, 6, 2, 7);
+        Checks.all("what is behind it", Answers.pair(x, 0, 1, 4), 2, 6, 1, 9);
+        Checks.all("the other way round", Answers.pair(x, 1, 0, 3), 6, 1, 2, 7);
+        Checks.all("what is behind it", Answers.pair(x, 1, 0, 4), 6, 2, 1, 9);
+        JoinedRuns most = Made.mostPairs();
+        Checks.all("the 79th pair of 40 and 40 runs", Answers.pair(most, 0, 1, 78), 2, 4, 1, 78);
+        Checks.all("no 80th", Answers.pair(most, 0, 1, 79), -1, -1, -1, -1);
     }
 
     private static void joined() {
         Checks.promise(16);
         JoinedRuns x = Checks.of("0=9,3*6,5*4;1=3*5,9*5;2=0*999");
-        Checks.all("0 and 1", everyJoined(x, 0, 1), 10, 4, 4, 27 + 36 + 54 + 135, 4);
-        Checks.all("0 and 0", everyJoined(x, 0, 0), 11, 3, 11, 81 + 54 + 100, 3);
-        Checks.all("0 and 2", everyJoined(x, 0, 2), 11, 3, 0, 0, 3);
-        Checks.all("2 and 1", everyJoined(x, 2, 1), 10, 2, 0, 0, 2);
-        Checks.all("with an empty one", everyJoined(x, 0, 3), 0, 0, 0, 0, 0);
-        Checks.all("an empty one with itself", everyJoined(x, 3, 3), 0, 0, 0, 0, 0);
+        Checks.all("0 and 1", Answers.joined(x, 0, 1), 10, 4, 4, 27 + 36 + 54 + 135, 4);
+        Checks.all("0 and 0", Answers.joined(x, 0, 0), 11, 3, 11, 81 + 54 + 100, 3);
+        Checks.all("0 and 2", Answers.joined(x, 0, 2), 11, 3, 0, 0, 3);
+        Checks.all("2 and 1", Answers.joined(x, 2, 1), 10, 2, 0, 0, 2);
+        Checks.all("with an empty one", Answers.joined(x, 0, 3), 0, 0, 0, 0, 0);
+        Checks.all("an empty one with itself", Answers.joined(x, 3, 3), 0, 0, 0, 0, 0);
         Checks.carryOut(x, "0=1,2,1,2,1,1;1=2,1,2,1,1*5");
-        Checks.all("pairs that come again are counted once, those turned round apart", everyJoined(x, 0, 1), 6, 5, 2, 10, 3);
+        Checks.all("pairs that come again are counted once, those turned round apart", Answers.joined(x, 0, 1), 6, 5, 2, 10, 3);
         Checks.carryOut(x, "3=9*999;2=9*999");
-        Checks.all("999 rows of 9", everyJoined(x, 2, 3), 999, 1, 999, 999 * 81, 1);
-        Checks.all("79 runs of pairs", everyJoined(mostPairs(), 0, 1), 79, 79, 0, 414, 4);
+        Checks.all("999 rows of 9", Answers.joined(x, 2, 3), 999, 1, 999, 999 * 81, 1);
+        Checks.all("79 runs of pairs", Answers.joined(Made.mostPairs(), 0, 1), 79, 79, 0, 414, 4);
         Checks.all("no such column", new int[] {x.joined(4, 0, 0), x.joined(0, 4, 0), x.joined(-1, 0, 9), x.joined(0, -1, 0)}, -1, -1, -1, -1);
         Checks.all("bad what", new int[] {x.joined(0, 1, 5), x.joined(0, 1, -1), x.joined(0, 0, MAX)}, -2, -2, -2);
     }

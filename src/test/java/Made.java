@@ -67,6 +67,16 @@ final class Made {
         return x;
     }
 
+    /** Columns 0 and 1 of 40 runs that are cut at other rows each: 79 runs of pairs, no two columns have more. */
+    static JoinedRuns mostPairs() {
+        JoinedRuns x = runs(40, 2);
+        x.append(1, 3, 1);
+        for (int k = 1; k < 40; k++) {
+            x.append(1, 3 + k % 2, 2);
+        }
+        return x;
+    }
+
     static JoinedRuns withText(String text) {
         JoinedRuns x = new JoinedRuns();
         Checks.write(x, text);

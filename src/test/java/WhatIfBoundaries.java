@@ -45,7 +45,7 @@ final class WhatIfBoundaries {
     /** The row and how many runs there would be, as bestSet tells them of column 0. */
     private static void best(String runs, int value, int row, int many) {
         JoinedRuns x = Checks.of("0=" + runs);
-        Checks.all("bestSet to " + value + " of " + runs, new int[] {x.bestSet(0, value, 0), x.bestSet(0, value, 1)}, row, many);
+        Checks.all("bestSet to " + value + " of " + runs, Answers.bestSet(x, 0, value), row, many);
         x.set(0, row, value);
         Checks.due("set, as bestSet has it", x.ofColumn(0, 1), many);
     }
@@ -68,9 +68,9 @@ final class WhatIfBoundaries {
         Sentences.sentence("(whether it would be TOO_MANY or not)", () -> {
             JoinedRuns x = Made.fullOfRuns();
             Checks.all("41 runs", new int[] {x.bestSet(0, 9, 0), x.bestSet(0, 9, 1), x.set(0, 0, 9)}, 0, 41, -4);
-            Checks.all("40 runs", new int[] {x.bestSet(0, 1, 0), x.bestSet(0, 1, 1)}, 0, 40);
+            Checks.all("40 runs", Answers.bestSet(x, 0, 1), 0, 40);
             JoinedRuns y = Made.fullOfBoth();
-            Checks.all("41 runs, 999 rows", new int[] {y.bestSet(0, 0, 0), y.bestSet(0, 0, 1)}, 0, 41);
+            Checks.all("41 runs, 999 rows", Answers.bestSet(y, 0, 0), 0, 41);
         });
         Sentences.sentence("of several the lowest one.", () -> {
             best("7*999", 7, 0, 1);
@@ -83,13 +83,13 @@ final class WhatIfBoundaries {
         });
         Sentences.sentence("`what`: 0 the row, 1 how many runs there would be", () -> {
             JoinedRuns x = Checks.of("2=6*4,9;3=0");
-            Checks.all("both", new int[] {x.bestSet(2, 6, 0), x.bestSet(2, 6, 1)}, 4, 1);
-            Checks.all("both, of one row", new int[] {x.bestSet(3, 9, 0), x.bestSet(3, 9, 1)}, 0, 1);
+            Checks.all("both", Answers.bestSet(x, 2, 6), 4, 1);
+            Checks.all("both, of one row", Answers.bestSet(x, 3, 9), 0, 1);
         });
         Sentences.sentence("Returns the number", () -> {
             JoinedRuns x = Made.rows(998);
             x.append(0, 6, 1);
-            Checks.all("the last row of 999", new int[] {x.bestSet(0, 5, 0), x.bestSet(0, 5, 1)}, 998, 1);
+            Checks.all("the last row of 999", Answers.bestSet(x, 0, 5), 998, 1);
         });
     }
 

@@ -29,31 +29,27 @@ final class WhatThereIsBoundaries {
         Boundary.asked("count(3)", Made::withAll, x -> x.count(3), 6);
     }
 
-    private static int[] everyRun(JoinedRuns x, int column, int run) {
-        return new int[] {x.run(column, run, 0), x.run(column, run, 1), x.run(column, run, 2)};
-    }
-
     private static void run() {
         Sentences.chapter("Promise 9: run");
         Sentences.sentence("Returns something about a run.", () -> {
             JoinedRuns x = Checks.of("0=1;3=5*997,6,7");
-            Checks.all("the only run", everyRun(x, 0, 0), 1, 1, 0);
-            Checks.all("the first run", everyRun(x, 3, 0), 5, 997, 0);
-            Checks.all("the last run", everyRun(x, 3, 2), 7, 1, 998);
+            Checks.all("the only run", Answers.run(x, 0, 0), 1, 1, 0);
+            Checks.all("the first run", Answers.run(x, 3, 0), 5, 997, 0);
+            Checks.all("the last run", Answers.run(x, 3, 2), 7, 1, 998);
             JoinedRuns full = Made.fullOfBoth();
-            Checks.all("run 38", everyRun(full, 0, 38), 1, 24, 912);
-            Checks.all("run 39, the 40th", everyRun(full, 0, 39), 2, 63, 936);
-            Checks.all("one run of 999 rows", everyRun(Made.fullOfRows(), 0, 0), 5, 999, 0);
+            Checks.all("run 38", Answers.run(full, 0, 38), 1, 24, 912);
+            Checks.all("run 39, the 40th", Answers.run(full, 0, 39), 2, 63, 936);
+            Checks.all("one run of 999 rows", Answers.run(Made.fullOfRows(), 0, 0), 5, 999, 0);
         });
         Sentences.sentence("`what`: 0 its value, 1 its length, 2 its first row", () -> {
             JoinedRuns x = Checks.of("2=9*3,0*7");
-            Checks.all("each what of the first run", everyRun(x, 2, 0), 9, 3, 0);
-            Checks.all("each what of the second run", everyRun(x, 2, 1), 0, 7, 3);
+            Checks.all("each what of the first run", Answers.run(x, 2, 0), 9, 3, 0);
+            Checks.all("each what of the second run", Answers.run(x, 2, 1), 0, 7, 3);
         });
         Sentences.sentence("Returns the number", () -> {
             JoinedRuns x = Made.fullOfRuns();
             for (int run = 0; run < 40; run++) {
-                Checks.all("run " + run, everyRun(x, 0, run), 1 + run % 2, 3, 3 * run);
+                Checks.all("run " + run, Answers.run(x, 0, run), 1 + run % 2, 3, 3 * run);
             }
         });
         Sentences.sentence("NO_SUCH if there is no such column or run", () -> {
@@ -153,22 +149,16 @@ final class WhatThereIsBoundaries {
         });
     }
 
-    private static int[] everyWhat(JoinedRuns x, int column) {
-        int[] answers = new int[7];
-        for (int what = 0; what < 7; what++) {
-            answers[what] = x.ofColumn(column, what);
-        }
-        return answers;
-    }
-
     private static void ofColumn() {
         Sentences.chapter("Promise 12: ofColumn");
         Sentences.sentence("Returns something about a column.", () -> {
-            Checks.all("an empty one", everyWhat(new JoinedRuns(), 0), 0, 0, 0, 0, 0, 1, 1);
-            Checks.all("one row of 0", everyWhat(Checks.of("3=0"), 3), 1, 1, 0, 1, 1, 1, 1);
-            Checks.all("999 rows of 9", everyWhat(Checks.of("3=9*999"), 3), 999, 1, 8991, 999, 512, 1, 1);
-            Checks.all("40 runs, 999 rows", everyWhat(Made.fullOfBoth(), 0), 999, 40, 1518, 63, 6, 0, 0);
-            Checks.all("emptied again", everyWhat(Checks.of("2=9*999;2-0*999"), 2), 0, 0, 0, 0, 0, 1, 1);
+            Checks.all("an empty one", Answers.ofColumn(new JoinedRuns(), 0), 0, 0, 0, 0, 0, 1, 1);
+            Checks.all("one row of 0", Answers.ofColumn(Checks.of("3=0"), 3), 1, 1, 0, 1, 1, 1, 1);
+            Checks.all("999 rows of 9", Answers.ofColumn(Checks.of("3=9*999"), 3), 999, 1, 8991, 999, 512, 1, 1);
+            Checks.all("40 runs, 999 rows", Answers.ofColumn(Made.fullOfBoth(), 0), 999, 40, 1518, 63, 6, 0, 0);
+            Checks.all("emptied again", Answers.ofColumn(Checks.of("2=9*999;2-0*999"), 2), 0, 0, 0, 0, 0, 1, 1);
+            Checks.all("a rise that was taken out", Answers.ofColumn(Checks.of("2=3*2,2,9*5;2-3*5"), 2), 3, 2, 8, 2, 12, 0, 1);
+            Checks.all("a fall that was taken out", Answers.ofColumn(Checks.of("2=3*2,4,0*5;2-3*5"), 2), 3, 2, 10, 2, 24, 1, 0);
         });
         Sentences.sentence("`what`: 0 its rows", () -> {
             Checks.due("none", new JoinedRuns().ofColumn(3, 0), 0);
@@ -214,7 +204,7 @@ final class WhatThereIsBoundaries {
     }
 
     private static void ofColumnErrors() {
-        Sentences.sentence("Returns the number", () -> Checks.all("of 10 rows", everyWhat(Made.withAll(), 0), 10, 5, 26, 4, 31, 1, 0));
+        Sentences.sentence("Returns the number", () -> Checks.all("of 10 rows", Answers.ofColumn(Made.withAll(), 0), 10, 5, 26, 4, 31, 1, 0));
         Sentences.sentence("NO_SUCH if there is no such column", () -> {
             JoinedRuns x = Checks.of("0=1;3=1,2");
             Checks.all("columns 0 and 3", new int[] {x.ofColumn(0, 0), x.ofColumn(3, 0)}, 1, 2);
@@ -229,27 +219,24 @@ final class WhatThereIsBoundaries {
         });
     }
 
-    private static int[] everyGroup(JoinedRuns x, int column, int value) {
-        return new int[] {x.group(column, value, 0), x.group(column, value, 1), x.group(column, value, 2)};
-    }
-
     private static void group() {
         Sentences.chapter("Promise 13: group");
         Sentences.sentence("Returns something about a value in a column.", () -> {
-            Checks.all("of an empty column", everyGroup(new JoinedRuns(), 3, 0), 0, 0, 0);
-            Checks.all("that no row has", everyGroup(Made.fullOfRows(), 0, 4), 0, 0, 0);
-            Checks.all("that all rows have", everyGroup(Made.fullOfRows(), 0, 5), 999, 1, 999);
-            Checks.all("that every other run has", everyGroup(Made.fullOfBoth(), 0, 2), 519, 20, 63);
-            Checks.all("the first and the last value", everyGroup(Checks.of("0=0*2,9*3,0"), 0, 0), 3, 2, 2);
-            Checks.all("the first and the last value", everyGroup(Checks.of("0=0*2,9*3,0"), 0, 9), 3, 1, 3);
+            Checks.all("of an empty column", Answers.group(new JoinedRuns(), 3, 0), 0, 0, 0);
+            Checks.all("that no row has", Answers.group(Made.fullOfRows(), 0, 4), 0, 0, 0);
+            Checks.all("that all rows have", Answers.group(Made.fullOfRows(), 0, 5), 999, 1, 999);
+            Checks.all("that every other run has", Answers.group(Made.fullOfBoth(), 0, 2), 519, 20, 63);
+            Checks.all("the first and the last value", Answers.group(Checks.of("0=0*2,9*3,0"), 0, 0), 3, 2, 2);
+            Checks.all("the first and the last value", Answers.group(Checks.of("0=0*2,9*3,0"), 0, 9), 3, 1, 3);
+            Checks.all("of which a run was taken out", Answers.group(Checks.of("0=0*2,9*3,0*5;0-5*5"), 0, 0), 2, 1, 2);
         });
         Sentences.sentence("`what`: 0 its rows, 1 its runs, 2 its longest run", () -> {
             JoinedRuns x = Checks.of("1=7*2,1,7*5,1*9,7*4");
-            Checks.all("each what of 7", everyGroup(x, 1, 7), 11, 3, 5);
-            Checks.all("each what of 1", everyGroup(x, 1, 1), 10, 2, 9);
+            Checks.all("each what of 7", Answers.group(x, 1, 7), 11, 3, 5);
+            Checks.all("each what of 1", Answers.group(x, 1, 1), 10, 2, 9);
             Boundary.refusedFor(Boundary.outside(0, 2), "group(0, 4, %d)", Made::withAll, (y, what) -> y.group(0, 4, what), -2);
         });
-        Sentences.sentence("Returns the number", () -> Checks.all("of 4", everyGroup(Made.withAll(), 0, 4), 4, 1, 4));
+        Sentences.sentence("Returns the number", () -> Checks.all("of 4", Answers.group(Made.withAll(), 0, 4), 4, 1, 4));
         Sentences.sentence("NO_SUCH if there is no such column", () -> {
             JoinedRuns x = Checks.of("0=1;3=1*2");
             Checks.all("columns 0 and 3", new int[] {x.group(0, 1, 0), x.group(3, 1, 0)}, 1, 2);
@@ -265,15 +252,11 @@ final class WhatThereIsBoundaries {
         });
     }
 
-    private static int[] everyCount(JoinedRuns x) {
-        return new int[] {x.count(0), x.count(1), x.count(2), x.count(3)};
-    }
-
     private static void count() {
         Sentences.chapter("Promise 14: count");
         Sentences.sentence("Returns a number.", () -> {
-            Checks.all("of a new object", everyCount(new JoinedRuns()), 0, 0, 0, 0);
-            Checks.all("of one with all", everyCount(Made.withAll()), 21, 11, 11, 6);
+            Checks.all("of a new object", Answers.count(new JoinedRuns()), 0, 0, 0, 0);
+            Checks.all("of one with all", Answers.count(Made.withAll()), 21, 11, 11, 6);
         });
         Sentences.sentence("`what`: 0 all rows of all columns", () -> {
             JoinedRuns x = Made.fullOfRows();

@@ -18,9 +18,9 @@ public final class WhatThereIsTest {
     private static void run() {
         Checks.promise(9);
         JoinedRuns x = Checks.of("2=7*3,0,9*20");
-        Checks.all("the first run", new int[] {x.run(2, 0, 0), x.run(2, 0, 1), x.run(2, 0, 2)}, 7, 3, 0);
-        Checks.all("the middle run", new int[] {x.run(2, 1, 0), x.run(2, 1, 1), x.run(2, 1, 2)}, 0, 1, 3);
-        Checks.all("the last run", new int[] {x.run(2, 2, 0), x.run(2, 2, 1), x.run(2, 2, 2)}, 9, 20, 4);
+        Checks.all("the first run", Answers.run(x, 2, 0), 7, 3, 0);
+        Checks.all("the middle run", Answers.run(x, 2, 1), 0, 1, 3);
+        Checks.all("the last run", Answers.run(x, 2, 2), 9, 20, 4);
         Checks.all("no such column", new int[] {x.run(4, 0, 0), x.run(-1, 0, 3), x.run(MIN, 0, 0)}, -1, -1, -1);
         Checks.all("no such run", new int[] {x.run(2, 3, 0), x.run(2, -1, 0), x.run(0, 0, 0), x.run(2, 3, 9), x.run(2, MAX, 1)}, -1, -1, -1, -1, -1);
         Checks.all("bad what", new int[] {x.run(2, 0, 3), x.run(2, 2, -1), x.run(2, 0, MAX)}, -2, -2, -2);
@@ -57,33 +57,25 @@ public final class WhatThereIsTest {
         Checks.all("999 rows", new int[] {x.find(3, 4, 998), x.find(3, 4, 999)}, 998, -6);
     }
 
-    private static int[] everyWhat(JoinedRuns x, int column) {
-        int[] answers = new int[7];
-        for (int what = 0; what < 7; what++) {
-            answers[what] = x.ofColumn(column, what);
-        }
-        return answers;
-    }
-
     private static void ofColumn() {
         Checks.promise(12);
         JoinedRuns x = Checks.of("0=1*3,4,9*2;1=9,3*5,0*2;2=2,1,2*4");
-        Checks.all("rising", everyWhat(x, 0), 6, 3, 25, 3, 1 << 1 | 1 << 4 | 1 << 9, 1, 0);
-        Checks.all("falling", everyWhat(x, 1), 8, 3, 24, 5, 1 << 9 | 1 << 3 | 1, 0, 1);
-        Checks.all("neither", everyWhat(x, 2), 6, 3, 11, 4, 1 << 1 | 1 << 2, 0, 0);
-        Checks.all("empty", everyWhat(x, 3), 0, 0, 0, 0, 0, 1, 1);
+        Checks.all("rising", Answers.ofColumn(x, 0), 6, 3, 25, 3, 1 << 1 | 1 << 4 | 1 << 9, 1, 0);
+        Checks.all("falling", Answers.ofColumn(x, 1), 8, 3, 24, 5, 1 << 9 | 1 << 3 | 1, 0, 1);
+        Checks.all("neither", Answers.ofColumn(x, 2), 6, 3, 11, 4, 1 << 1 | 1 << 2, 0, 0);
+        Checks.all("empty", Answers.ofColumn(x, 3), 0, 0, 0, 0, 0, 1, 1);
         x.append(3, 9, 999);
-        Checks.all("999 rows", everyWhat(x, 3), 999, 1, 8991, 999, 512, 1, 1);
+        Checks.all("999 rows", Answers.ofColumn(x, 3), 999, 1, 8991, 999, 512, 1, 1);
         x.remove(0, 3, 3);
-        Checks.all("one run, the others taken out", everyWhat(x, 0), 3, 1, 3, 3, 2, 1, 1);
+        Checks.all("one run, the others taken out", Answers.ofColumn(x, 0), 3, 1, 3, 3, 2, 1, 1);
         x.remove(1, 6, 2);
-        Checks.all("two runs, the third taken out", everyWhat(x, 1), 6, 2, 24, 5, 1 << 9 | 1 << 3, 0, 1);
+        Checks.all("two runs, the third taken out", Answers.ofColumn(x, 1), 6, 2, 24, 5, 1 << 9 | 1 << 3, 0, 1);
         Checks.carryOut(x, "0=1,9");
-        Checks.all("rising at the second run", everyWhat(x, 0), 2, 2, 10, 1, 1 << 9 | 2, 1, 0);
+        Checks.all("rising at the second run", Answers.ofColumn(x, 0), 2, 2, 10, 1, 1 << 9 | 2, 1, 0);
         Checks.carryOut(x, "0=3,2,9;0-2*1");
-        Checks.all("falling, a rise taken out", everyWhat(x, 0), 2, 2, 5, 1, 12, 0, 1);
+        Checks.all("falling, a rise taken out", Answers.ofColumn(x, 0), 2, 2, 5, 1, 12, 0, 1);
         Checks.fillRuns(x, 2);
-        Checks.all("40 runs", everyWhat(x, 2), 40, 40, 60, 1, 6, 0, 0);
+        Checks.all("40 runs", Answers.ofColumn(x, 2), 40, 40, 60, 1, 6, 0, 0);
         Checks.all("no such column", new int[] {x.ofColumn(4, 0), x.ofColumn(-1, 7), x.ofColumn(MAX, 0)}, -1, -1, -1);
         Checks.all("bad what", new int[] {x.ofColumn(0, 7), x.ofColumn(3, -1), x.ofColumn(0, MIN)}, -2, -2, -2);
     }
@@ -91,15 +83,15 @@ public final class WhatThereIsTest {
     private static void group() {
         Checks.promise(13);
         JoinedRuns x = Checks.of("0=5*2,1*3,5*4,2,5");
-        Checks.all("5", new int[] {x.group(0, 5, 0), x.group(0, 5, 1), x.group(0, 5, 2)}, 7, 3, 4);
-        Checks.all("1", new int[] {x.group(0, 1, 0), x.group(0, 1, 1), x.group(0, 1, 2)}, 3, 1, 3);
-        Checks.all("0", new int[] {x.group(0, 0, 0), x.group(0, 0, 1), x.group(0, 0, 2)}, 0, 0, 0);
-        Checks.all("an empty column", new int[] {x.group(3, 9, 0), x.group(3, 9, 1), x.group(3, 9, 2)}, 0, 0, 0);
+        Checks.all("5", Answers.group(x, 0, 5), 7, 3, 4);
+        Checks.all("1", Answers.group(x, 0, 1), 3, 1, 3);
+        Checks.all("0", Answers.group(x, 0, 0), 0, 0, 0);
+        Checks.all("an empty column", Answers.group(x, 3, 9), 0, 0, 0);
         x.remove(0, 2, 9);
-        Checks.all("its first run alone, the others taken out", new int[] {x.group(0, 5, 0), x.group(0, 5, 1), x.group(0, 5, 2)}, 2, 1, 2);
-        Checks.all("1, taken out", new int[] {x.group(0, 1, 0), x.group(0, 1, 1), x.group(0, 1, 2)}, 0, 0, 0);
+        Checks.all("its first run alone, the others taken out", Answers.group(x, 0, 5), 2, 1, 2);
+        Checks.all("1, taken out", Answers.group(x, 0, 1), 0, 0, 0);
         x.remove(0, 0, 2);
-        Checks.all("all taken out", new int[] {x.group(0, 5, 0), x.group(0, 5, 1), x.group(0, 5, 2)}, 0, 0, 0);
+        Checks.all("all taken out", Answers.group(x, 0, 5), 0, 0, 0);
         Checks.all("no such column", new int[] {x.group(4, 5, 0), x.group(-1, 10, 0)}, -1, -1);
         Checks.all("bad value", new int[] {x.group(0, 10, 0), x.group(0, -1, 0), x.group(0, MIN, 0)}, -2, -2, -2);
         Checks.all("bad what", new int[] {x.group(0, 5, 3), x.group(0, 5, -1), x.group(3, 0, MAX)}, -2, -2, -2);
@@ -108,12 +100,12 @@ public final class WhatThereIsTest {
     private static void count() {
         Checks.promise(14);
         JoinedRuns x = new JoinedRuns();
-        Checks.all("a new object", new int[] {x.count(0), x.count(1), x.count(2), x.count(3)}, 0, 0, 0, 0);
+        Checks.all("a new object", Answers.count(x), 0, 0, 0, 0);
         x.append(0, 1, 999);
         x.append(3, 2, 5);
         x.append(3, 1, 2);
         Checks.write(x, "0=1;nonsense");
-        Checks.all("with all", new int[] {x.count(0), x.count(1), x.count(2), x.count(3)}, 1006, 3, 12, 3);
+        Checks.all("with all", Answers.count(x), 1006, 3, 12, 3);
         for (int k = 0; k < 5; k++) {
             x.sort(0);
         }
