@@ -19,14 +19,8 @@ final class Document {
 
     static Document read() {
         Document document = new Document();
-        List<String> lines;
-        try {
-            lines = Files.readAllLines(FILE);
-        } catch (IOException e) {
-            throw new UncheckedIOException(e);
-        }
         String heading = "";
-        for (String line : lines) {
+        for (String line : lines()) {
             if (line.startsWith("#")) {
                 heading = line.replaceFirst("^#+ ", "");
             } else {
@@ -37,12 +31,27 @@ final class Document {
         return document;
     }
 
+    private static List<String> lines() {
+        if (!Files.exists(FILE)) {
+            System.out.println("there is no " + FILE + " here: the quotes are not compared with it");
+            return List.of();
+        }
+        try {
+            return Files.readAllLines(FILE);
+        } catch (IOException e) {
+            throw new UncheckedIOException(e);
+        }
+    }
+
     private static String oneLine(String text) {
         return text.trim().replaceAll("\\s+", " ");
     }
 
-    /** Whether the words stand in the chapter; they are quoted then. */
+    /** Whether the words stand in the chapter, as far as the document is here; they are quoted then. */
     boolean quote(String chapter, String words) {
+        if (texts.isEmpty()) {
+            return true;
+        }
         if (!texts.getOrDefault(chapter, "").contains(words)) {
             return false;
         }
