@@ -9,7 +9,7 @@ public final class ModelTest {
     /** An object is used for so many calls, and nothing is promised of later ones. */
     private static final int CALLS = 512;
     private static final int[] WILD = {Integer.MIN_VALUE, Integer.MAX_VALUE, -1, -7, 4, 10, 1000, 2, 7, 79, 80, 0};
-    private static final String[] SIGNS = {"0", "1", "3", "4", "9", "10", "00", "999", "1000", "=", "+", "!", "-", "*", "@", ",", ";", "~", "a"};
+    private static final String[] SIGNS = {"0", "1", "3", "4", "9", "10", "00", "999", "1000", "=", "+", "!", "-", "*", "@", ",", ";", "~", "a", ":", "/"};
 
     private final Random random;
     private final JoinedRuns object = new JoinedRuns();
@@ -37,11 +37,21 @@ public final class ModelTest {
 
     private void use(String at) {
         try {
+            if (random.nextInt(3) == 0) {
+                crowd(at);
+            }
             while (calls < CALLS) {
                 step(at + "call " + calls + ": ");
             }
         } catch (UsedUp e) {
             Checks.due(at + "calls", calls, CALLS);
+        }
+    }
+
+    /** Columns that are all but full of runs, which calls that are drawn reach too seldom. */
+    private void crowd(String at) {
+        for (int column = 0; column < 2; column++) {
+            carryOut(at, column + "=" + Checks.zigzag(column, 2, 39 - random.nextInt(4)));
         }
     }
 
@@ -265,18 +275,35 @@ public final class ModelTest {
             Checks.due(at + "wipe", x().wipe(), model.wipe());
         }
         String text = anyText();
-        for (int from = 0; from < text.length();) {
-            int to = Math.min(text.length(), from + 1 + random.nextInt(8));
-            put(at, Checks.packed(text.substring(from, to)));
-            from = to;
-        }
+        write(at, text);
         if (random.nextInt(4) == 0) {
-            put(at, random.nextBoolean() ? random.nextLong() : Checks.packed("!;0!") << 8 * random.nextInt(5) & ~(255L << 8 * random.nextInt(8)));
+            put(at, anyCharacters());
         }
         Checks.due(at + "fault of " + text, x().fault(), model.fault());
         if (random.nextInt(5) > 0) {
             Checks.due(at + "carryOut of " + text, x().carryOut(), model.carryOut());
             sameNowAndThen(at);
+        }
+    }
+
+    private void carryOut(String at, String text) {
+        write(at, text);
+        Checks.due(at + "carryOut of " + text, x().carryOut(), model.carryOut());
+    }
+
+    private void write(String at, String text) {
+        for (int from = 0; from < text.length();) {
+            int to = Math.min(text.length(), from + 1 + random.nextInt(8));
+            put(at, Checks.packed(text.substring(from, to)));
+            from = to;
+        }
+    }
+
+    private long anyCharacters() {
+        switch (random.nextInt(3)) {
+            case 0: return random.nextLong();
+            case 1: return random.nextInt(300);
+            default: return Checks.packed("!;0!") << 8 * random.nextInt(5) & ~(255L << 8 * random.nextInt(8));
         }
     }
 
