@@ -22,8 +22,8 @@ public final class JoinedRuns {
     private final boolean[] saved = new boolean[SLOTS];
     /** A change is built here first, so that one that fails leaves its column as it was. */
     private final Column draft = new Column();
-    private final Pad pad = new Pad();
-    private final OrderReader reader = new OrderReader(pad);
+    private final OrderReader reader = new OrderReader();
+    private final Pad pad = reader.pad();
     /** For each value of the one column the set of values of the other that stand beside it. */
     private final int[] partners = new int[VALUES];
 
@@ -794,8 +794,9 @@ public final class JoinedRuns {
             }
         }
 
+        /** The callers have asked isColumn; here, too, no index is used that was not looked at. */
         Column column(int column) {
-            return columns[column];
+            return columns[column >= 0 && column < COLUMNS ? column : 0];
         }
 
         int allRows() {
@@ -949,7 +950,7 @@ public final class JoinedRuns {
      * stands at the first character that cannot stand there, or behind the last one: this is the fault.
      */
     private static final class OrderReader {
-        private final Pad pad;
+        private final Pad pad = new Pad();
         private final int[] values = new int[MOST_RUNS];
         private final int[] lengths = new int[MOST_RUNS];
         private int runs;
@@ -961,8 +962,8 @@ public final class JoinedRuns {
         /** The number or digit that was read last. */
         private int number;
 
-        OrderReader(Pad pad) {
-            this.pad = pad;
+        Pad pad() {
+            return pad;
         }
 
         int column() {

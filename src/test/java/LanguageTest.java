@@ -9,9 +9,9 @@ import java.util.regex.Matcher;
 import java.util.regex.Pattern;
 
 /**
- * What of LANGUAGE.md a look at the source can tell (rules 2, 3, 4, 6, 9 and 11): words that the rules leave out, other
- * classes and functions of the library, loops without any bound, methods that grow long. It is a net with wide meshes, no
- * proof, and refuses nothing that the rules allow.
+ * What of LANGUAGE.md a look at the source can tell (rules 2, 3, 4, 6, 9, 11 and 12): words that the rules leave out,
+ * other classes and functions of the library, loops without any bound, methods that grow long, fields that are handed on
+ * while their object is made. It is a net with wide meshes, no proof, and refuses nothing that the rules allow.
  */
 public final class LanguageTest {
     private static final Path SOURCE = Path.of("src/main/java/JoinedRuns.java");
@@ -31,6 +31,7 @@ public final class LanguageTest {
         words(code);
         names(code);
         methods(code);
+        handedOut(code);
         Checks.due("all signs are plain", whole.chars().allMatch(sign -> sign == '\n' || sign >= 32 && sign < 127), true);
         Checks.end();
     }
@@ -76,6 +77,14 @@ public final class LanguageTest {
         }
         Checks.due("methods were seen", seen > 25, true);
         Checks.due("long methods, or of many parameters", lengthy, List.of());
+    }
+
+    /** A field's initialiser is part of the constructor: a name among what it gives to another one is a field's. */
+    private static void handedOut(String code) {
+        Checks.about("LANGUAGE.md, rule 12");
+        String given = "\\b(?!true\\b|false\\b|null\\b)[a-z]\\w*";
+        Set<String> fields = found("(?m)^ *(private|final) [^=;()]*= new \\w+\\([^;]*" + given + "[^;]*;", code);
+        Checks.due("fields that are handed on by an initialiser", fields, Set.of());
     }
 
     private static Set<String> found(String pattern, String code) {
